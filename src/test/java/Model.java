@@ -10,8 +10,6 @@ import java.util.TreeMap;
  * copied whole when it becomes safe. Calls come by name, so that a test can compare any of them.
  */
 final class Model {
-    static final String THROWS = "throws";
-
     /** cents is null for a void; note is the date or the reason. */
     record Event(int number, Long cents, int note) { }
 
@@ -127,7 +125,7 @@ final class Model {
     String call(String name, long[] a) {
         return switch (name) {
             case "series", "strike", "close", "fate", "invoiceOf", "total", "listByte" ->
-                    up[count] ? ofOffice(name, a) : THROWS;
+                    up[count] ? ofOffice(name, a) : Calls.THROWS;
             case "request", "report", "invoice", "voidNext", "voidUsed" -> ofBranch(name, a);
             case "again" -> told(isBranch(a[0]) && up[(int) a[0]] && sendAgain((int) a[0]));
             case "crash" -> told(isSide(a[0]) && up[(int) a[0]] && fall((int) a[0]));
@@ -289,7 +287,7 @@ final class Model {
         }
         int b = (int) a[0];
         if (!up[b]) {
-            return THROWS;
+            return Calls.THROWS;
         }
         if (!isSeries(a[1])) {
             return answersBoolean ? "false" : "-1";

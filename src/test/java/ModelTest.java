@@ -5,7 +5,6 @@ import java.util.TreeMap;
 /** Runs of chance, from fixed seeds, on the class and on the model: every answer is the same. */
 public final class ModelTest {
     private static final int RUNS = 6000;
-    private static final int CALLS = 512;
     private static final int WIND_UP = 450;
     private static final int MOST_TOLD = 10;
     private static final int[] EDGES = {
@@ -49,12 +48,12 @@ public final class ModelTest {
 
     /** The first call whose answers differ, or null. */
     private String play() {
-        for (int i = 0; i < CALLS; i++) {
+        for (int i = 0; i < Calls.MOST; i++) {
             String name = nextName(i);
             long[] a = arguments(name);
             String due = model.call(name, a);
-            String got = answer(name, a);
-            String kind = due.equals("true") || due.equals("throws") || due.equals("-1")
+            String got = Calls.answer(office, name, a);
+            String kind = due.equals("true") || due.equals(Calls.THROWS) || due.equals("-1")
                     || due.equals("false") ? due : "value";
             seen.merge(name + " " + kind, 1, Integer::sum);
             if (!got.equals(due)) {
@@ -77,7 +76,7 @@ public final class ModelTest {
             return "series";
         }
         // Late, so that most series have numbers when they are closed.
-        if (pick < 4 && i > CALLS / 2) {
+        if (pick < 4 && i > Calls.MOST / 2) {
             return chance.nextInt(5) == 0 ? "strike" : "close";
         }
         if (i > WIND_UP) {
@@ -142,55 +141,6 @@ public final class ModelTest {
             case "branchFate" -> new long[] {some(branches), series(), number()};
             case "branch" -> new long[] {some(branches), some(6)};
             default -> new long[] {series(), some(chance.nextBoolean() ? 20 : 600)};
-        };
-    }
-
-    private String answer(String name, long[] a) {
-        try {
-            return String.valueOf(a.length < 3 ? callOfFew(name, a) : callOfMore(name, a));
-        } catch (IllegalStateException e) {
-            return Model.THROWS;
-        } catch (RuntimeException e) {
-            return e.toString();
-        }
-    }
-
-    private Object callOfFew(String name, long[] a) {
-        int x = a.length > 0 ? (int) a[0] : 0;
-        int y = a.length > 1 ? (int) a[1] : 0;
-        return switch (name) {
-            case "series" -> (Object) office.series(x, y);
-            case "report" -> office.report(x, y);
-            case "again" -> office.again(x);
-            case "strike" -> office.strike(x);
-            case "close" -> office.close(x);
-            case "crash" -> office.crash(x);
-            case "mount" -> office.mount(x);
-            case "flush" -> office.flush(x);
-            case "letters" -> office.letters();
-            case "letter" -> office.letter(x, y);
-            case "deliver" -> office.deliver(x);
-            case "drop" -> office.drop(x);
-            case "twin" -> office.twin(x);
-            case "fate" -> office.fate(x, y);
-            case "total" -> office.total(x, y);
-            case "branch" -> office.branch(x, y);
-            case "listByte" -> office.listByte(x, y);
-            default -> throw new IllegalArgumentException(name);
-        };
-    }
-
-    private Object callOfMore(String name, long[] a) {
-        int x = (int) a[0];
-        int y = (int) a[1];
-        return switch (name) {
-            case "request" -> (Object) office.request(x, y, (int) a[2]);
-            case "invoice" -> office.invoice(x, y, a[2], (int) a[3]);
-            case "voidNext" -> office.voidNext(x, y, (int) a[2]);
-            case "voidUsed" -> office.voidUsed(x, y, (int) a[2], (int) a[3]);
-            case "invoiceOf" -> office.invoiceOf(x, y, (int) a[2]);
-            case "branchFate" -> office.branchFate(x, y, (int) a[2]);
-            default -> throw new IllegalArgumentException(name);
         };
     }
 }
